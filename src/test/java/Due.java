@@ -1,0 +1,39 @@
+/** Counts the calls whose answer is not the one that is due, and prints each of them. */
+final class Due {
+    interface Call {
+        long answer();
+    }
+
+    private int wrong;
+
+    /** What a call did, as a text: its answer, or "throws." and the name of what it threw. */
+    static String outcome(Call call) {
+        try {
+            return Long.toString(call.answer());
+        } catch (RuntimeException e) {
+            return "throws." + e.getClass().getSimpleName();
+        }
+    }
+
+    void is(String what, Call call, long want) {
+        same(what, outcome(call), Long.toString(want));
+    }
+
+    void fails(String what, Call call, Class<? extends RuntimeException> want) {
+        same(what, outcome(call), "throws." + want.getSimpleName());
+    }
+
+    void same(String what, String got, String want) {
+        if (!got.equals(want)) {
+            wrong++;
+            System.out.println(what + " answered " + got + ", due is " + want);
+        }
+    }
+
+    void end() {
+        System.out.println(wrong == 0 ? "all answers are as due" : wrong + " answers are not as due");
+        if (wrong != 0) {
+            System.exit(1);
+        }
+    }
+}
