@@ -5,6 +5,8 @@ final class Due {
     }
 
     private int wrong;
+    private int sentences;
+    private String sentence = "";
 
     /** What a call did, as a text: its answer, or "throws." and the name of what it threw. */
     static String outcome(Call call) {
@@ -15,6 +17,12 @@ final class Due {
             boolean byMachine = e.getMessage() == null || e.getMessage().contains("out of bounds for");
             return (byMachine ? "machine throws." : "throws.") + e.getClass().getSimpleName();
         }
+    }
+
+    /** The answers from here on are due by this sentence of the document. */
+    void about(String words) {
+        sentences++;
+        sentence = "\"" + words + "\": ";
     }
 
     void is(String what, Call call, long want) {
@@ -28,12 +36,13 @@ final class Due {
     void same(String what, String got, String want) {
         if (!got.equals(want)) {
             wrong++;
-            System.out.println(what + " answered " + got + ", due is " + want);
+            System.out.println(sentence + what + " answered " + got + ", due is " + want);
         }
     }
 
     void end() {
-        System.out.println(wrong == 0 ? "all answers are as due" : wrong + " answers are not as due");
+        String told = sentences == 0 ? "" : sentences + " sentences of the document: ";
+        System.out.println(told + (wrong == 0 ? "all answers are as due" : wrong + " answers are not as due"));
         if (wrong != 0) {
             System.exit(1);
         }

@@ -7,8 +7,8 @@ import java.util.Set;
 import java.util.TreeMap;
 
 /**
- * The document's words as directly as they go, without a thought for speed, for RandomRunsTest to
- * compare with. Every answer is a text, as Due.outcome gives it.
+ * The document's words as directly as they go, without a thought for speed, for RandomRunsTest and
+ * TermsEdgesTest to compare with. Every answer is a text, as Due.outcome gives it.
  */
 final class Model {
     private static final String NO_ELEMENT = "throws.ArrayIndexOutOfBoundsException";
