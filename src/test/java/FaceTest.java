@@ -110,7 +110,8 @@ public final class FaceTest {
 
     private static void theSourceKeepsToTheLanguage() throws IOException {
         String source = Files.readString(Path.of("src/main/java/ProofCompare.java"));
-        String code = source.replaceAll("(?s)/\\*.*?\\*/", "").replaceAll("//[^\n]*", "").replaceAll("\"[^\"\n]*\"", "");
+        String code = source.replaceAll("(?s)/\\*.*?\\*/", "").replaceAll("//[^\n]*", "")
+            .replaceAll("\"[^\"\n]*\"", "");
         for (String word : RULED_OUT) {
             boolean plain = word.chars().allMatch(Character::isLetter);
             boolean there = plain ? code.matches("(?s).*\\b" + word + "\\b.*") : code.contains(word);

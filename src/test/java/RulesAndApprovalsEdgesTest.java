@@ -255,7 +255,8 @@ public final class RulesAndApprovalsEdgesTest {
     }
 
     private static void allRulesInOrder() {
-        due.about("promise 11: All rules, in order: each that finds more than its bound, or fails, is a FAULT: how many");
+        due.about("promise 11: All rules, in order: each that finds more than its bound, or fails, is a FAULT:"
+            + " how many");
         ProofCompare x = new ProofCompare(2, 2);
         x.rule(4, 0, false);
         x.rule(0, 1, false);

@@ -107,9 +107,9 @@ public final class SurfacesEdgesTest {
 
     private static void theLowestEightBits() {
         due.about("promise 2: gets the lowest eight bits of v");
-        int[][] values = {{0, 0}, {1, 1}, {127, 127}, {128, 128}, {254, 254}, {255, 255}, {256, 0}, {257, 1}, {511, 255},
-            {512, 0}, {65535, 255}, {-1, 255}, {-2, 254}, {-127, 129}, {-128, 128}, {-129, 127}, {-255, 1}, {-256, 0},
-            {-257, 255}, {MOST, 255}, {LEAST, 0}, {LEAST + 1, 1}};
+        int[][] values = {{0, 0}, {1, 1}, {127, 127}, {128, 128}, {254, 254}, {255, 255}, {256, 0}, {257, 1},
+            {511, 255}, {512, 0}, {65535, 255}, {-1, 255}, {-2, 254}, {-127, 129}, {-128, 128}, {-129, 127},
+            {-255, 1}, {-256, 0}, {-257, 255}, {MOST, 255}, {LEAST, 0}, {LEAST + 1, 1}};
         ProofCompare x = new ProofCompare(1, 1);
         for (int[] value : values) {
             x.point(0, 0, 0, value[0]);
@@ -190,10 +190,10 @@ public final class SurfacesEdgesTest {
         int was = 0;
         for (int b = 0; b <= 255; b += 5) {
             for (int near = 0; near <= 2; near++) {
-                int due0 = was;
+                int before = was;
                 int n = near;
                 int bound = b;
-                due.is("before " + b + ", " + near, () -> x.bound(bound, n), due0);
+                due.is("before " + b + ", " + near, () -> x.bound(bound, n), before);
                 was = 10 * b + near;
             }
         }
@@ -230,7 +230,8 @@ public final class SurfacesEdgesTest {
     }
 
     private static void theFieldsOfABox() {
-        due.about("promise 5: 0 left, 1 top, 2 right, 3 bottom (the last places in it), 4 how many places in it differ");
+        due.about("promise 5: 0 left, 1 top, 2 right, 3 bottom (the last places in it), 4 how many places in it"
+            + " differ");
         ProofCompare x = new ProofCompare(32, 32);
         x.point(0, 0, 0, 1);
         x.point(0, 29, 31, 1);

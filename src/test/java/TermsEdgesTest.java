@@ -203,7 +203,7 @@ public final class TermsEdgesTest {
                     int a = aside;
                     int d = down;
                     boolean met = Math.abs(a) <= n && Math.abs(d) <= n;
-                    due.is("near " + n + ", " + a + " aside, " + d + " down", () -> differingApart(n, a, d), met ? 0 : 2);
+                    due.is("near " + n + ", " + a + ", " + d, () -> differingApart(n, a, d), met ? 0 : 2);
                 }
             }
         }
@@ -483,10 +483,19 @@ public final class TermsEdgesTest {
             due.is("new " + i, () -> full.words(40 + n, 3), i);
         }
         due.is("both sides full", () -> full.words(-1, 0), 80);
+        ProofCompare turned = new ProofCompare(0, 0);
+        for (int i = 0; i < 40; i++) {
+            turned.word(0, i < 38 ? i + 2 : 39 - i, i, 0);
+            turned.word(1, i, i, 0);
+        }
+        due.is("two left of side 0 behind a full side 1, and shifted ones", () -> turned.words(-1, 0), 40);
+        due.is("the first left was new elsewhere", () -> turned.words(38, 3), 1);
+        due.is("the second left was new elsewhere", () -> turned.words(39, 3), 0);
     }
 
     private static void movedWithTheFirstNewOneLeft() {
-        due.about("each gone one, in order, with the first new one of the same word that is left, is MOVED (2) instead");
+        due.about("each gone one, in order, with the first new one of the same word that is left, is MOVED (2)"
+            + " instead");
         ProofCompare gone = new ProofCompare(0, 0);
         put(gone, 0, 5, 5, 5, 1, 2, 3);
         put(gone, 1, 1, 2, 3, 5, 5);

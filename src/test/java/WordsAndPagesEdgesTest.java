@@ -227,8 +227,8 @@ public final class WordsAndPagesEdgesTest {
     }
 
     private static void missingByPages() {
-        due.about("promise 9: The i-th page that only one side has, by pages: 2 times the page, and the side that has it"
-            + " not");
+        due.about("promise 9: The i-th page that only one side has, by pages: 2 times the page, and the side that"
+            + " has it not");
         ProofCompare x = new ProofCompare(0, 0);
         x.size(0, 19, 1, 1);
         x.size(1, 18, 1, 1);
